@@ -10,6 +10,9 @@ public final class EggTrays {
     private static final int MOST_AT_TABLE = 15;
     private static final int MOST_MAYS = 4;
     private static final int KINDS = 3;
+    private static final int KIND_HEAP = 0;
+    private static final int KIND_LEAVE = 1;
+    private static final int KIND_EATS = 2;
     private static final int MOST_LAWS = 7;
     private static final int MOST_KNOTS = 64;
     private static final int MOST_OPEN = 8;
@@ -1204,7 +1207,7 @@ public final class EggTrays {
                 guest.goWithout(station);
             } else {
                 // What a law says of leaving may change from one second to the next.
-                calm = calm && plan.told[LEAVE - HEAP] == NONE;
+                calm = calm && plan.told[KIND_LEAVE] == NONE;
                 guest.waits = true;
                 guest.waited++;
             }
@@ -1239,7 +1242,7 @@ public final class EggTrays {
             Pan pan = pans[station];
             Dish dish = plan.dishes[station];
             describe(number, station);
-            long wanted = plan.laws.value(plan.told[HEAP - HEAP]);
+            long wanted = plan.laws.value(plan.told[KIND_HEAP]);
             wanted = wanted == ERROR ? guest.wants[station] : wanted;
             wanted = wanted < 0 ? 0 : wanted;
             wanted = wanted > guest.room ? guest.room : wanted;
@@ -1262,7 +1265,7 @@ public final class EggTrays {
 
         private boolean leavesOut(int number, int station) {
             describe(number, station);
-            long value = plan.laws.value(plan.told[LEAVE - HEAP]);
+            long value = plan.laws.value(plan.told[KIND_LEAVE]);
             return value != ERROR && value != 0;
         }
 
@@ -1271,7 +1274,7 @@ public final class EggTrays {
             Guest guest = guests[number];
             int plate = plan.callers[number].size - guest.room;
             describe(number, NONE);
-            long eats = plan.laws.value(plan.told[EATS - HEAP]);
+            long eats = plan.laws.value(plan.told[KIND_EATS]);
             eats = eats == ERROR || eats > plate ? plate : eats;
             eats = eats < 0 ? 0 : eats;
             guest.eaten += (int) eats;
@@ -1860,39 +1863,11 @@ public final class EggTrays {
     }
 
     public int fill(int station, int n, int p, int q, int what) {
-        if (!canWeigh(station, n, p, q, what)) {
-            return NONE;
-        }
-        spare.copyFrom(told);
-        int bestFrom = 0;
-        int least = NONE;
-        for (int from = 0; from <= MOST_FROM; from++) {
-            spare.dishes[station].from = from;
-            int cost = costOf(station, n, p, q);
-            if (least == NONE || cost < least) {
-                least = cost;
-                bestFrom = from;
-            }
-        }
-        return what == 0 ? bestFrom : least;
+        return canWeigh(station, n, p, q, what) ? cheapest(station, n, p, q, what, true) : NONE;
     }
 
     public int rule(int station, int n, int p, int q, int what) {
-        if (!canWeigh(station, n, p, q, what)) {
-            return NONE;
-        }
-        spare.copyFrom(told);
-        int bestPortions = 0;
-        int least = NONE;
-        for (int portions = 1; portions <= MOST_PORTIONS; portions++) {
-            spare.dishes[station].portions = portions;
-            int cost = costOf(station, n, p, q);
-            if (least == NONE || cost < least) {
-                least = cost;
-                bestPortions = portions;
-            }
-        }
-        return what == 0 ? bestPortions : least;
+        return canWeigh(station, n, p, q, what) ? cheapest(station, n, p, q, what, false) : NONE;
     }
 
     private boolean canWeigh(int station, int n, int p, int q, int what) {
@@ -1900,10 +1875,26 @@ public final class EggTrays {
         return told.hasPan(station) && isLength(n) && weights && (what == 0 || what == 1);
     }
 
-    private int costOf(int station, int n, int p, int q) {
-        trial.begin(spare, now.row);
-        trial.go(n);
-        return p * trial.pans[station].empty + q * trial.pans[station].portions;
+    /** By what FROM, or else by what portions in a pan, a run costs least. */
+    private int cheapest(int station, int n, int p, int q, int what, boolean byFrom) {
+        spare.copyFrom(told);
+        Dish dish = spare.dishes[station];
+        Pan pan = trial.pans[station];
+        int least = NONE;
+        int best = NONE;
+        int last = byFrom ? MOST_FROM : MOST_PORTIONS;
+        for (int tried = byFrom ? 0 : 1; tried <= last; tried++) {
+            dish.from = byFrom ? tried : dish.from;
+            dish.portions = byFrom ? dish.portions : tried;
+            trial.begin(spare, now.row);
+            trial.go(n);
+            int cost = p * pan.empty + q * pan.portions;
+            if (least == NONE || cost < least) {
+                least = cost;
+                best = tried;
+            }
+        }
+        return what == 0 ? best : least;
     }
 
     public int bus(int guest, int b, int t, int n) {
