@@ -26,6 +26,10 @@ public final class EggTrays {
     private static final int MOST_SIZE = 20;
     private static final int MOST_PORTIONS = 60;
     private static final int MOST_FROM = 59;
+    private static final int MOST_LAG = 900;
+    private static final int MOST_TAKING = 240;
+    private static final int MOST_WANTED = 9;
+    private static final int MOST_SITTING = 1800;
     private static final int MOST_WEIGHT = 99;
     private static final int MOST_BOUND = 99999;
     private static final int MOST_COUNTED = 99;
@@ -562,10 +566,7 @@ public final class EggTrays {
             return false;
         }
 
-        void readLine() {
-            if (!readUpToSemicolon()) {
-                return;
-            }
+        void endLine() {
             if (tokens.kind != SEMICOLON) {
                 refuse(CANNOT_STAND);
                 return;
@@ -574,7 +575,8 @@ public final class EggTrays {
             lines++;
         }
 
-        private boolean readUpToSemicolon() {
+        /** A line up to its ';': false with a fault. */
+        boolean readLine() {
             switch (tokens.kind) {
                 case STATION:
                     return readStation();
@@ -633,7 +635,7 @@ public final class EggTrays {
                 return false;
             }
             dish.name = letters;
-            if (!readNumber(1, 240)) {
+            if (!readNumber(1, MOST_TAKING)) {
                 return false;
             }
             dish.seconds = value;
@@ -641,8 +643,20 @@ public final class EggTrays {
                 return false;
             }
             dish.places = value;
-            if (tokens.kind == PAN && !readPan(dish)) {
-                return false;
+            if (tokens.kind == PAN) {
+                tokens.advance();
+                if (!readNumber(1, MOST_PORTIONS)) {
+                    return false;
+                }
+                dish.portions = value;
+                if (!readNumber(1, MOST_LAG)) {
+                    return false;
+                }
+                dish.lag = value;
+                if (!readNumber(0, MOST_FROM)) {
+                    return false;
+                }
+                dish.from = value;
             }
             if (tokens.kind == COLD) {
                 tokens.advance();
@@ -652,23 +666,6 @@ public final class EggTrays {
                 dish.cold = value;
             }
             plan.stations++;
-            return true;
-        }
-
-        private boolean readPan(Dish dish) {
-            tokens.advance();
-            if (!readNumber(1, MOST_PORTIONS)) {
-                return false;
-            }
-            dish.portions = value;
-            if (!readNumber(1, 900)) {
-                return false;
-            }
-            dish.lag = value;
-            if (!readNumber(0, MOST_FROM)) {
-                return false;
-            }
-            dish.from = value;
             return true;
         }
 
@@ -699,7 +696,7 @@ public final class EggTrays {
                     return false;
                 }
                 tokens.advance();
-                if (!readNumber(1, 9)) {
+                if (!readNumber(1, MOST_WANTED)) {
                     return false;
                 }
                 caller.wants[station] = value;
@@ -739,7 +736,7 @@ public final class EggTrays {
                 return refuse(TOLD_ALREADY);
             }
             tokens.advance();
-            if (!readNumber(1, 1800)) {
+            if (!readNumber(1, MOST_SITTING)) {
                 return false;
             }
             plan.again = value;
@@ -1535,7 +1532,9 @@ public final class EggTrays {
         reader.begin(spare, n);
         // Every line uses up a byte at least.
         for (int i = 0; i < n && !reader.atEnd(); i++) {
-            reader.readLine();
+            if (reader.readLine()) {
+                reader.endLine();
+            }
         }
         if (reader.fault != 0) {
             return NONE;
