@@ -10,9 +10,6 @@ public final class EggTrays {
     private static final int MOST_AT_TABLE = 15;
     private static final int MOST_MAYS = 4;
     private static final int KINDS = 3;
-    private static final int KIND_HEAP = 0;
-    private static final int KIND_LEAVE = 1;
-    private static final int KIND_EATS = 2;
     private static final int MOST_LAWS = 7;
     private static final int MOST_KNOTS = 64;
     private static final int MOST_OPEN = 8;
@@ -68,6 +65,10 @@ public final class EggTrays {
     private static final int SIZE = 22;
     private static final int TAKEN = 23;
     private static final int NAMES = 8;
+
+    private static final int KIND_HEAP = 0;
+    private static final int KIND_LEAVE = LEAVE - HEAP;
+    private static final int KIND_EATS = EATS - HEAP;
 
     // The other tokens.
     private static final int PLUS = 24;

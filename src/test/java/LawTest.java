@@ -133,6 +133,43 @@ public final class LawTest {
         Check.due("the laws stay", x.law(0, 9, 0, 0, 0), 2);
     }
 
+    private static void countsAtManySeconds() {
+        EggTrays x = Check.told("station e 1 1 pan 9 900 0;guest p 0 9 wants e 2;guest q 10 9 wants e 2;guest r 20 9 wants e 2;may heap one 1;");
+        x.count(0, 20, 3, 3);
+        x.count(0, 9, 7, 7);
+        x.count(0, 10, 5, 5);
+        x.count(0, 9, 6, 8);
+        x.count(0, 19, 5, 5);
+        x.count(0, 0, 7, 7);
+        Check.due("as told", x.fits(), 2);
+        x.known(0);
+        int far = x.count(0, 19, 3, 3);
+        x.known(-1);
+        Check.due("not yet at 19", x.fits(), 0);
+        x.strike(far);
+        Check.due("as told", x.fits(), 2);
+        x.count(0, 11, 7, 7);
+        Check.due("no more at 11", x.fits(), 0);
+    }
+
+    private static void seven() {
+        EggTrays x = Check.told("station e 1 1 pan 9 900 0;guest p 0 9 wants e 4;law eats 3;law leave 2;law heap 1;may heap a 2;may eats b 0;may leave c 0;may heap d 4;");
+        Check.due("heap", x.law(0, 0, 0, 0, 0), 1);
+        Check.due("leave", x.law(1, 0, 0, 0, 0), 2);
+        Check.due("eats", x.law(2, 0, 0, 0, 0), 3);
+        x.count(0, 5, 5, 7);
+        Check.due("a, d", x.fits(), 1 | 8);
+        x.count(0, 6, 0, 6);
+        Check.due("d", x.fits(), 8);
+    }
+
+    private static void namesOfLaw() {
+        EggTrays x = Check.told("station e 1 1 pan 9 900 0;guest p 5 9 wants e 4;law heap late+taken+age+1;law eats late+taken;law leave 1;");
+        x.seconds(60);
+        Check.due("late, taken, age are 0", x.law(0, 9, 9, 9, 9), 1);
+        Check.due("late, taken are 0", x.law(2, 9, 9, 9, 9), 0);
+    }
+
     private static void fitsByRow() {
         EggTrays x = Check.told("station a 4 1 pan 5 900 0;station b 4 1 pan 5 900 0;guest p 0 9 wants a 1 wants b 1;may heap two 2;");
         x.count(0, 0, 5, 5);
@@ -189,6 +226,9 @@ public final class LawTest {
         wrongLaws();
         fits();
         fitsByRow();
+        countsAtManySeconds();
+        seven();
+        namesOfLaw();
         counts();
         all();
         Check.end();

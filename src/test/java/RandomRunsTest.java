@@ -130,13 +130,17 @@ public final class RandomRunsTest {
     }
 
     private void tellText(String t) {
+        tellText(t, false);
+    }
+
+    private void tellText(String t, boolean whole) {
         text = t;
         byte[] bytes = t.getBytes(StandardCharsets.ISO_8859_1);
         for (int at = 0; at < bytes.length; at += 20) {
             int[] n = Check.numbers(bytes, at);
             due("feed", x.feed(n[0], n[1], n[2], n[3], n[4]), m.feed(n[0], n[1], n[2], n[3], n[4]));
         }
-        int n = bytes.length > 800 ? 800 : one(40) ? bytes.length + 30 : one(60) ? -1 : bytes.length;
+        int n = bytes.length > 800 ? 800 : whole ? bytes.length : one(40) ? bytes.length + 30 : one(60) ? -1 : bytes.length;
         due("text(" + n + ")", x.text(n), m.text(n));
         due("fault(0)", x.fault(0), m.fault(0));
         due("fault(1)", x.fault(1), m.fault(1));
@@ -347,11 +351,61 @@ public final class RandomRunsTest {
             } else if (kind < 7) {
                 countSomething();
             } else if (one(3)) {
-                tellText(spoilt(good));
+                tellText(one(3) ? madeUp() : spoilt(good));
                 compareState();
             }
         }
         compareState();
+    }
+
+    /** Rows count most where many guests want different things of many stations. */
+    private void rowRun(int number) {
+        run = number;
+        x = new EggTrays();
+        m = new Model();
+        StringBuilder s = new StringBuilder();
+        int stations = from(3, 5);
+        for (int i = 0; i < stations; i++) {
+            s.append("station ").append(name(i)).append(' ').append(from(1, 9)).append(" 1;");
+        }
+        for (int i = 0; i < 9; i++) {
+            s.append("guest ").append(name(i)).append(' ').append(upTo(20)).append(" 9 wants ").append(name(upTo(stations - 1))).append(" 1;");
+        }
+        tellText(s.toString(), true);
+        int n = from(20, 90);
+        for (int what = 0; what <= stations; what++) {
+            due("best(" + n + ", " + what + ")", x.best(n, what), m.best(n, what));
+        }
+    }
+
+    /** Counts as they are by one of the laws, so that some fit and some don't. */
+    private void countRun(int number) {
+        run = number;
+        x = new EggTrays();
+        m = new Model();
+        tellText("station a " + from(1, 5) + " 1 pan 9 " + from(3, 30) + " " + upTo(4) + ";station b 2 1 pan 6 9 1;"
+                + "guest p 0 9 wants a 4 wants b 3;guest q " + upTo(9) + " 9 wants a 3;guest r " + upTo(30) + " 4 wants b 4 wants a 1;again 6;pass;"
+                + "may heap half want/2+1;may heap more want+1;may leave gone 1;may heap early here>2;", true);
+        for (int i = 0; i < 12; i++) {
+            int s = upTo(1);
+            int t = upTo(60);
+            Model.Spec spec = m.spec.copy();
+            int may = upTo(4);
+            if (may < 4) {
+                spec.law[spec.mayKinds.get(may)] = spec.mayTrees.get(may);
+            }
+            int portions = m.run(spec, t + 1).ps.get(s).portions;
+            int lo = Math.max(0, portions - upTo(2));
+            int hi = Math.min(99, portions + upTo(2));
+            due("count(" + s + ", " + t + ", " + lo + ", " + hi + ")", x.count(s, t, lo, hi), m.count(s, t, lo, hi));
+            if (one(3)) {
+                int c = upTo(m.counts.size() - 1);
+                due("strike(" + c + ")", x.strike(c), m.strike(c));
+            }
+            int n = from(-1, m.counts.size());
+            Check.due("run " + run + " known(" + n + ")", x.known(n), m.known(n));
+            due("fits() known by " + n, x.fits(), m.fits());
+        }
     }
 
     private void faultRun(int number) {
@@ -386,6 +440,10 @@ public final class RandomRunsTest {
         for (int i = 0; i < runs && Check.good(); i++) {
             test.oneRun(i);
             test.faultRun(i);
+            if (i % 4 == 0) {
+                test.rowRun(i);
+                test.countRun(i);
+            }
         }
         Check.end();
     }

@@ -155,6 +155,18 @@ public final class RunsTest {
             Check.due("wrong rule", x.rule(wrong[0], wrong[1], wrong[2], wrong[3], wrong[4]), -1);
         }
         Check.due("the pan stays", x.station(1, 2), 1);
+        Check.due("weights of 99", x.fill(1, 10, 99, 99, 1), 198);
+        Check.due("weights of 99", x.rule(1, 10, 99, 99, 1), 99);
+        Check.due("weights of 0", x.rule(1, 10, 0, 0, 0), 1);
+        // With 60 the pan lasts up to the last guest; with 59 from order it is filled at 100, else at 150.
+        EggTrays all = Check.told("station e 1 4 pan 5 900 0;guest a 0 9 wants e 9;guest b 10 9 wants e 9;guest c 20 9 wants e 9;guest d 30 9 wants e 9;"
+                + "guest e 40 9 wants e 9;guest f 50 9 wants e 9;guest g 60 9 wants e 5;guest h 70 9 wants e 1;pass;");
+        Check.due("60 in one", all.rule(0, 80, 1, 0, 0), 60);
+        Check.due("how much", all.rule(0, 80, 1, 0, 1), 10);
+        EggTrays soon = Check.told("station e 1 4 pan 60 100 0;guest a 0 9 wants e 1;guest b 50 9 wants e 9;guest c 50 9 wants e 9;guest d 50 9 wants e 9;"
+                + "guest e 50 9 wants e 9;guest f 50 9 wants e 9;guest g 50 9 wants e 9;guest h 50 9 wants e 9;pass;");
+        Check.due("from 59", soon.fill(0, 200, 1, 0, 0), 59);
+        Check.due("how much", soon.fill(0, 200, 1, 0, 1), 49);
         EggTrays z = Check.told("station e 1 1 pan 7 900 0;");
         Check.due("rule at 0 seconds", z.rule(0, 0, 9, 1, 0), 1);
         Check.due("fill at 0 seconds", z.fill(0, 0, 9, 99, 1), 693);
@@ -206,6 +218,9 @@ public final class RunsTest {
         }
         EggTrays late = Check.told("station a 1 1;guest p 3599 5 wants a 2;guest q 3599 5 wants a 1;");
         Check.due("3599 at most", late.chance(5, 600, 3600, 0), 10);
+        Check.due("3599 at most", late.chance(5, 1, 3600, 0), 10);
+        Check.due("bound 99999", x.chance(0, 0, 10, 99999), 0);
+        Check.due("the largest seed and j", x.chance(2147483647, 600, 0, 0), 0);
         for (int[] wrong : new int[][] {{-1, 0, 9, 0}, {0, -1, 9, 0}, {0, 601, 9, 0}, {0, 0, -1, 0}, {0, 0, 3601, 0}}) {
             Check.due("wrong chance", x.chance(wrong[0], wrong[1], wrong[2], wrong[3]), -1);
         }

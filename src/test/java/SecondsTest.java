@@ -180,6 +180,16 @@ public final class SecondsTest {
         look(z, "gives up", 1, 1, 0, 3, 0, 0, 3, 0, 0, 0, 1);
     }
 
+    private static void leavesOutAtOnce() {
+        for (int n = 1; n <= 9; n += 8) {
+            EggTrays x = Check.told("station b 30 1;guest p 0 3 wants b 1;guest q 1 3 wants b 1;law leave late>=3;");
+            for (int i = 0; i < 9; i += n) {
+                x.seconds(n);
+            }
+            look(x, "by " + n, 1, 1, 0, 3, 0, 0, 7, 0, 0, 0, 1);
+        }
+    }
+
     private static int[] heaps(String law, String guests) {
         EggTrays x = Check.told("station x 1 1;station y 1 1 pan 60 900 0;" + guests + "law heap " + law + ";");
         x.seconds(30);
@@ -264,6 +274,7 @@ public final class SecondsTest {
         blocked();
         again();
         leavesOut();
+        leavesOutAtOnce();
         names();
         eating();
         order();

@@ -104,6 +104,10 @@ public final class TextTest {
         Check.fault("again;", 1, 5);
         Check.fault("close pass;", 1, 6);
         Check.fault("law pass 1;", 1, 4);
+        Check.fault("law or 1;", 1, 4);
+        Check.fault("law may 1;", 1, 4);
+        Check.fault("may or m 1;", 1, 4);
+        Check.fault("may may m 1;", 1, 4);
         Check.fault("law heap 1 2;", 1, 11);
         Check.fault("law heap want want;", 1, 14);
         Check.fault("law heap -1;", 1, 9);
@@ -160,6 +164,10 @@ public final class TextTest {
         Check.fault(sum + "+1;", 2, sum.length() + 1);
         Check.fault(sum + ";law eats not room;", 2, sum.length() + 14);
         Check.fault(sum + "+1+9;", 2, sum.length() + 1);
+        Check.fault(sum + ";law eats 1;may heap m not 1;", 2, sum.length() + 23);
+        Check.fault(sum + ";law eats 1;may heap m ((1));", 2, sum.length() + 25);
+        Check.fault(sum + " and 1 and 1;", 2, sum.length() + 5);
+        Check.fault(sum + "<1 or 1;", 2, sum.length() + 1);
     }
 
     private static void told() {
@@ -174,6 +182,28 @@ public final class TextTest {
         Check.due("what needs no blanks", Check.tell(new EggTrays(), "station a1 1pan1 1 0cold1;law heap(1)<=2;law eats 1<>1and 2>=1;"), 3);
         Check.due("numbers with noughts ahead", Check.tell(new EggTrays(), "station a 000000000240 004;again 0001800;"), 2);
         Check.due("the bounds", Check.tell(new EggTrays(), "station a 240 4 pan 60 900 59 cold 3600;guest g 3599 20 wants a 9;again 1800;close 0;"), 4);
+    }
+
+    private static void nothingStays() {
+        EggTrays x = Check.told("");
+        String pans = "station a 9 4 pan 7 30 5 cold 3;station b 9 4 pan 7 30 5 cold 3;guest p 0 9 wants a 9 wants b 9;pass;again 9;close 9;law heap 1;";
+        for (int i = 0; i < 3; i++) {
+            Check.due("pans", Check.tell(x, pans), 7);
+            x.seconds(100);
+        }
+        for (int i = 0; i < 2; i++) {
+            Check.due("no pans", Check.tell(x, "station c 1 1;station d 1 1 pan 2 50 0;guest p 20 4 wants d 1;guest q 20 4 wants d 1;"), 4);
+            Check.due("no pan", x.station(0, 2), -1);
+            Check.due("nothing cold", x.station(0, 6), 0);
+            Check.due("law", x.law(0, 1, 1, 1, 1), Long.MIN_VALUE);
+            Check.due("wants", Check.look(x, 0, 3), 1);
+            Check.due("waited without pass", x.waited(30), 1);
+            x.seconds(100);
+            Check.due("never cold", x.station(1, 6), 0);
+            Check.due("filled without a close", x.station(1, 8), 1);
+            Check.due("done without again", Check.look(x, 0, 0), 3);
+            Check.due("nothing missed", Check.look(x, 1, 9), 0);
+        }
     }
 
     private static void names() {
@@ -201,6 +231,7 @@ public final class TextTest {
         cannotStand();
         tooMuch();
         told();
+        nothingStays();
         names();
         Check.end();
     }
