@@ -155,6 +155,23 @@ public final class HandTest {
         x.seconds(800);
         Check.due("back once more", x.back(), 2);
         Check.due("line", x.line(1), 1);
+        EggTrays y = Check.told("station a 3 1;guest p 0 5 wants a 2;guest q 0 5 wants a 1;");
+        y.seconds(1);
+        y.keep();
+        y.seconds(20);
+        y.back();
+        y.seconds(4);
+        Check.due("who waited waits there yet", Check.look(y, 1, 6), 1);
+        Check.due("three seconds", Check.look(y, 1, 5), 3);
+        EggTrays z = Check.told("station a 1 1;guest p 0 1 wants a 2;again 9;");
+        z.seconds(3);
+        z.keep();
+        z.seconds(30);
+        z.back();
+        z.seconds(7);
+        Check.due("sits yet", Check.look(z, 0, 0), 2);
+        z.seconds(1);
+        Check.due("came again", Check.look(z, 0, 10), 2);
     }
 
     public static void main(String[] args) {

@@ -48,7 +48,10 @@ public final class LawTest {
         value("(1<2)<3", 1);
         value("(1<2)+(2<3)", 2);
         value("not(1)+0", 0);
-        value("1=1=1".substring(0, 3), 1);
+        value("not ".repeat(63) + "1", 0);
+        value("not ".repeat(62) + "1", 1);
+        value("((((((((" + "not ".repeat(63) + "0))))))))", 1);
+        value("not(".repeat(8) + "not ".repeat(55) + "7" + ")".repeat(8), 0);
         value("1/0", NO);
         value("0 and 1/0", NO);
         value("1 or 1/0", NO);
@@ -153,13 +156,13 @@ public final class LawTest {
     }
 
     private static void seven() {
-        EggTrays x = Check.told("station e 1 1 pan 9 900 0;guest p 0 9 wants e 4;law eats 3;law leave 2;law heap 1;may heap a 2;may eats b 0;may leave c 0;may heap d 4;");
+        EggTrays x = Check.told("station e 1 1 pan 9 900 0;guest p 0 9 wants e 4;law eats 3;law leave 2;law heap 1;may heap a 2;may eats b 0;may leave c 0;may heap d 3;");
         Check.due("heap", x.law(0, 0, 0, 0, 0), 1);
         Check.due("leave", x.law(1, 0, 0, 0, 0), 2);
         Check.due("eats", x.law(2, 0, 0, 0, 0), 3);
         x.count(0, 5, 5, 7);
         Check.due("a, d", x.fits(), 1 | 8);
-        x.count(0, 6, 0, 6);
+        x.count(0, 6, 6, 6);
         Check.due("d", x.fits(), 8);
     }
 
