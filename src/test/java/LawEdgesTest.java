@@ -36,6 +36,11 @@ public final class LawEdgesTest {
                 Check.due(names[i], x.law(1, i == 0 ? value : 7, i == 1 || i == 4 ? value : 7, i == 2 ? value : 7, i == 3 ? value : 7), i < 5 ? value : 0);
             }
         }
+        // Right behind a HEAP with an AGE, late and with something on the plate.
+        EggTrays heaped = Check.told("station a 1 1;station b 1 1 pan 9 900 0;guest p 5 9 wants a 2 wants b 2;law heap want+age*100+late*10+taken;");
+        heaped.seconds(7);
+        Check.due("taken in all", Check.look(heaped, 0, 6), 9);
+        Check.due("age, late, taken are 0", heaped.law(0, 3, 1, 1, 1), 3);
         for (String e : new String[] {"1/want", "want/(room-1)", "9999*9999*9999*(9999*want+9999)"}) {
             EggTrays x = Check.told("law eats " + e + ";");
             Check.due("an error: " + e, x.law(2, 0, 1, 0, 0), NO);

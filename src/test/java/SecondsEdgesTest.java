@@ -348,6 +348,15 @@ public final class SecondsEdgesTest {
         value("(0-" + most + ")*2", Long.MIN_VALUE);
         value("1000*1000*1000*100*9+1000*1000*1000*100", twelve);
         value("1000*1000*1000*100*9+1000*1000*1000*100+1", Long.MIN_VALUE);
+        // 2 to the 64 is an ERROR too, though a long would make 0 of it.
+        String high = "4096*4096*256";
+        for (String a : new String[] {high, "(0-" + high + ")"}) {
+            for (String b : new String[] {"(" + high + ")", "(0-" + high + ")"}) {
+                value(a + "*" + b, Long.MIN_VALUE);
+            }
+            value(a + "*0", 0);
+            value("0*" + "(" + a + ")", 0);
+        }
         value("1/1", 1);
         value("1/0", Long.MIN_VALUE);
         value("0/0", Long.MIN_VALUE);
