@@ -323,6 +323,72 @@ public final class SecondsEdgesTest {
         }
     }
 
+    /** What the guests have taken in all at a second, one after the other. */
+    private static void taken(String text, int second, int... due) {
+        EggTrays x = Check.told(text);
+        x.seconds(second);
+        for (int guest = 0; guest < due.length; guest++) {
+            look(x, "[" + text + "] at " + second, guest, 6, due[guest]);
+        }
+    }
+
+    /** "here: PORTIONS in the PAN (999 without one ..); age: of the PAN (0 without ..)". */
+    private static void namesOfPans() {
+        // Ordered in second 0, filled in second 4.
+        int[] age = {0, 1, 2, 3, 0, 1};
+        for (int second = 0; second < age.length; second++) {
+            taken("station e 1 1 pan 9 4 9;guest p " + second + " 9 wants e 1;law heap age+1;close 1;", second + 1, age[second] + 1);
+            taken("station e 1 1;guest p " + second + " 9 wants e 1;law heap age+1;", second + 1, 1);
+        }
+        taken("station e 1 2 pan 9 900 0;guest p 0 4 wants e 1;guest q 0 9 wants e 1;law heap here;", 1, 4, 5);
+        taken("station e 1 1 pan 9 900 0;guest p 0 9 wants e 1;law heap 1+(here=9)*2;", 1, 3);
+        taken("station e 1 1;guest p 0 9 wants e 1;law heap 1+(here=999)*2;", 1, 3);
+        for (String pan : new String[] {"", " pan 9 900 0"}) {
+            String text = "station e 9 1" + pan + ";guest p 0 9 wants e 1;guest q 0 9 wants e 1;law leave ";
+            look(at(text + "here=999;", 1), "here of [" + pan + "]", 1, 9, pan.isEmpty() ? 1 : 0);
+            look(at(text + "here=8;", 1), "here of [" + pan + "]", 1, 9, pan.isEmpty() ? 0 : 1);
+            look(at(text + "age=2;", 3), "age of [" + pan + "]", 1, 9, pan.isEmpty() ? 0 : 1);
+            look(at(text + "age>2;", 3), "age of [" + pan + "]", 1, 9, 0);
+        }
+        String eats = "station e 1 1 pan 9 900 0;guest p 5 9 wants e 4;law eats 1+";
+        look(at(eats + "here;", 7), "here in eats", 0, 7, 1);
+        look(at(eats + "age;", 7), "age in eats", 0, 7, 1);
+    }
+
+    /** "want: WANT there (all together in eats); room, size; .. line: how many are in the LINE ..; late: .. (first); taken: what is on the plate". */
+    private static void namesOfGuests() {
+        String again = "station a 1 1;guest p 3 9 wants a 9;again 5;law heap late+1;";
+        taken(again, 4, 1);
+        taken(again, 9, 1);
+        taken(again, 10, 8);
+        taken(again, 15, 8);
+        taken(again, 16, 17);
+        String two = "station a 1 1;station b 1 1;guest p 0 9 wants a 2 wants b 3;law heap ";
+        taken(two + "want;", 1, 2);
+        taken(two + "want;", 2, 5);
+        taken(two + "taken+1;", 1, 1);
+        taken(two + "taken+1;", 2, 3);
+        taken(two + "room-5;", 1, 4);
+        taken(two + "room-5;", 2, 4);
+        taken(two + "room-4;", 2, 5);
+        taken(two + "size-5;", 2, 8);
+        StringBuilder nine = new StringBuilder("station a 1 4;law heap line;");
+        for (int i = 0; i < 9; i++) {
+            nine.append("guest ").append((char) ('a' + i)).append(" 0 20 wants a 1;");
+        }
+        taken(nine.toString(), 1, 9, 9, 9, 9, 0, 0, 0, 0, 0);
+        taken(nine.toString(), 2, 9, 9, 9, 9, 5, 5, 5, 5, 0);
+        taken(nine.toString(), 3, 9, 9, 9, 9, 5, 5, 5, 5, 1);
+        String eats = "station a 1 1;station b 1 1;station c 9 1;guest p 0 5 wants a 4 wants b 3 wants c 2;law eats ";
+        look(at(eats + "want;", 9), "2 of b and 2 of c are left", 0, 7, 4);
+        look(at(eats + "want-5;", 9), "no more than these", 0, 7, 0);
+        look(at(eats + "taken-1;", 9), "what is on the plate", 0, 7, 4);
+        look(at(eats + "room+1;", 9), "no room", 0, 7, 1);
+        look(at(eats + "size-1;", 9), "size", 0, 7, 4);
+        look(at(eats + "late;", 9), "left in second 2", 0, 7, 2);
+        look(at(eats + "line;", 9), "alone", 0, 7, 1);
+    }
+
     private static void value(String e, long due) {
         Check.due("[" + e + "]", Check.told("law eats " + e + ";").law(2, 7, 5, 3, 2), due);
     }
@@ -532,6 +598,8 @@ public final class SecondsEdgesTest {
         cold();
         heap();
         eats();
+        namesOfPans();
+        namesOfGuests();
         values();
         looks();
         notInTheLine();
